@@ -1551,7 +1551,7 @@ public final class SleightHouse {
             law.beginWhen();
             if (kinds[cursor] == WHEN) {
                 step();
-                if (!anyOf(0)) {
+                if (!condition(0)) {
                     return false;
                 }
             }
@@ -1559,66 +1559,61 @@ public final class SleightHouse {
             return expect(';');
         }
 
-        private boolean anyOf(int open) {
-            if (!allOf(open)) {
-                return false;
-            }
-            for (int i = 0; i < TAPE && kinds[cursor] == OR; i++) {
-                step();
-                if (!allOf(open)) {
-                    return false;
-                }
-                law.emit(Law.OR, 0);
-            }
-            return true;
-        }
-
-        private boolean allOf(int open) {
-            if (!claim(open)) {
-                return false;
-            }
-            for (int i = 0; i < TAPE && kinds[cursor] == AND; i++) {
-                step();
+        /** "or" and "and" in one loop: each waits till what stands behind it is read. */
+        private boolean condition(int open) {
+            boolean either = false;
+            boolean both = false;
+            for (int i = 0; i < TAPE; i++) {
                 if (!claim(open)) {
                     return false;
                 }
-                law.emit(Law.AND, 0);
+                if (both) {
+                    law.emit(Law.AND, 0);
+                }
+                both = kinds[cursor] == AND;
+                if (!both) {
+                    if (either) {
+                        law.emit(Law.OR, 0);
+                    }
+                    if (kinds[cursor] != OR) {
+                        return true;
+                    }
+                    either = true;
+                }
+                step();
             }
-            return true;
+            return blame(CANT_STAND);
         }
 
+        /** What is open, a bracket or a not, is counted, so that a text can't lead too deep. */
         private boolean claim(int open) {
-            int kind = kinds[cursor];
-            if (kind != NOT && kind != '(') {
-                return comparison();
+            int first = kinds[cursor];
+            if (first == NOT || first == '(') {
+                if (open >= OPEN_MOST) {
+                    return blame(TOO_MANY);
+                }
+                step();
+                if (first == '(') {
+                    return condition(open + 1) && expect(')');
+                }
+                if (!claim(open + 1)) {
+                    return false;
+                }
+                law.emit(Law.NOT, 0);
+                return true;
             }
-            if (open >= OPEN_MOST) {
-                return blame(TOO_MANY);
-            }
-            step();
-            if (kind == '(') {
-                return anyOf(open + 1) && expect(')');
-            }
-            if (!claim(open + 1)) {
-                return false;
-            }
-            law.emit(Law.NOT, 0);
-            return true;
-        }
-
-        private boolean comparison() {
             if (!sum()) {
                 return false;
             }
-            int kind = kinds[cursor];
-            if (kind != '<' && kind != '=' && kind != '>') {
+            int sign = kinds[cursor];
+            if (sign != '<' && sign != '=' && sign != '>') {
                 return blame(CANT_STAND);
             }
             step();
             if (!sum()) {
                 return false;
             }
-            law.emit(kind == '<' ? Law.LESS : kind == '=' ? Law.SAME : Law.MORE, 0);
+            law.emit(sign == '<' ? Law.LESS : sign == '=' ? Law.SAME : Law.MORE, 0);
             return true;
         }
 
