@@ -2031,7 +2031,8 @@ public final class SleightHouse {
             bind(child, parent);
             if (first[child] == NONE) {
                 first[child] = parent;
-            } else {
+            } else if (first[child] != parent) {
+                // Parents are a set: one who is told twice is one, and the other is not told.
                 second[child] = parent;
                 bind(first[child], parent);
             }

@@ -727,7 +727,7 @@ final class Model {
         for (int i = 0; i < n; i++) {
             List<Integer> told = new ArrayList<>();
             for (int[] line : t.line) {
-                if (line[0] == i) {
+                if (line[0] == i && !told.contains(line[1])) {
                     told.add(line[1]);
                 }
             }

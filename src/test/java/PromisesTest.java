@@ -722,6 +722,26 @@ public final class PromisesTest {
             x.gift(i, i < 2 ? 2 : 0);
         }
         Due.is("each the child of the other: not 0 and 2", x.heir(-1), 7);
+        oneParentToldTwice(x);
+    }
+
+    private static void oneParentToldTwice(SleightHouse x) {
+        Due.tell(x, 3, "person 0 child of 1;person 0 child of 1;");
+        Due.is("both lines are told", x.look(11), 2);
+        Due.is("one parent", x.who(0, 4), 2);
+        Due.is("the other parent hands on either", x.heir(-1), 7);
+        x.gift(1, 0);
+        Due.is("one mark at most, from the other", x.heir(0), 1);
+        x.gift(1, 1);
+        Due.is("a gift", x.heir(-1), 5);
+        x.gift(0, 0);
+        Due.is("of two marks one is handed on", x.heir(1), 11);
+        Due.tell(x, 3, "person 0 child of 1;person 2 child of 1;person 0 child of 1;person 2 child of 0;");
+        x.gift(0, 1);
+        x.gift(1, 0);
+        x.gift(2, 2);
+        Due.is("no mark of the one told twice, one of the other", x.heir(0), 11);
+        Due.is("and hands it on or not", x.heir(2), 1);
     }
 
     // Promise 33

@@ -194,7 +194,8 @@ public final class TextsTest {
         Due.is("the same parent on two lines", Due.tell(x, 3, "person 0 child of 1;person 0 child of 1;"), 2);
         Due.is("is one of the set", x.who(0, 4), 2);
         x.gift(2, 0);
-        Due.is("hands on twice: 1 + 3 + 1", x.heir(-1), 5);
+        Due.is("hands on once: 2 + 3 + 2", x.heir(-1), 7);
+        Due.faulty(x, 3, "person 0 child of 1;person 0 child of 1;person 0 child of 2;", 2, 47);
     }
 
     private static void manyLines() {

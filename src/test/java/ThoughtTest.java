@@ -244,7 +244,8 @@ public final class ThoughtTest {
             int[] parents = new int[12];
             for (int i = 0; i < 16; i++) {
                 int child = run < 4 ? Math.min(i, 10) : r.nextInt(12);
-                int parent = run < 4 ? child + 1 : (child + 1 + r.nextInt(11)) % 12;
+                int far = run < 8 ? 2 : 11;
+                int parent = run < 4 ? child + 1 : (child + 1 + r.nextInt(far)) % 12;
                 if (parents[child]++ < 2) {
                     text.append("person ").append(child).append(" child of ").append(parent).append(";");
                 }
