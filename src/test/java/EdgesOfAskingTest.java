@@ -169,6 +169,8 @@ public final class EdgesOfAskingTest {
         Due.is("in brackets", told("far 1 when (1=1 or 1=1) and 1=2;far 2;", 1), 2);
         Due.is("and thrice", told("far 1 when 1=1 and 1=1 and 1=2;far 2;", 1), 2);
         Due.is("or thrice", told("far 1 when 1=2 or 1=2 or 1=1;far 2;", 1), 1);
+        Due.is("less and alike", told("far 1 when 1<2 and 1=1;far 2;", 1), 1);
+        Due.is("alike and more", told("far 1 when 1=1 and 2>1;far 2;", 1), 1);
     }
 
     @Says(promise = 17, words = "not C | ( B )")
@@ -178,6 +180,8 @@ public final class EdgesOfAskingTest {
         Due.is("not of a bracket", told("far 1 when not (1=2 and 1=2);far 2;", 1), 1);
         Due.is("not not", told("far 1 when not not 1=1;far 2;", 1), 1);
         Due.is("not not not", told("far 1 when not not not 1=1;far 2;", 1), 2);
+        Due.is("not less", told("far 1 when not 1<2;far 2;", 1), 2);
+        Due.is("not more", told("far 1 when not 2>1;far 2;", 1), 2);
     }
 
     @Says(promise = 17, words = "C = E (< | = | >) E")
@@ -505,6 +509,31 @@ public final class EdgesOfAskingTest {
         x.set(0, 4, 8);
         Due.is("9 of 8", x.where(1, 2, 4), NONE);
         Due.is("9 of 9 where it is", x.where(1, 2, 2), 2);
+    }
+
+    @Says(promise = 20, words = "then on to the first one that has ROOM for it")
+    static void inThoughtItGoesOnToOneWithRoomToo() {
+        SleightHouse x = Scenes.houseWithLaw("palms 1000 when moved = 1 and sleight = 9;palms 0;far 1;");
+        Due.is("puts(1, 2, 5)", x.puts(1, 2, 5), 5);
+        Due.is("5 is full: where(0, 0, 4)", x.where(0, 0, 4), 6);
+        x.set(0, 6, 2);
+        Due.is("6 is too small: where(0, 0, 4)", x.where(0, 0, 4), 7);
+        for (int place = 0; place < 12; place++) {
+            x.set(0, place, place == 4 ? 3 : 2);
+        }
+        Due.is("itself last of all: where(0, 0, 4)", x.where(0, 0, 4), 4);
+    }
+
+    @Says(promise = 20, words = "Then palms is asked of that PLACE")
+    static void inThoughtPalmsIsAskedWhenItLiesThere() {
+        String when = " when full = 8 and moved = 3 and lost = 0 and palmed = 0 and place = 1";
+        SleightHouse x = Scenes.houseWithLaw("palms 500" + when + ";palms 499;far 4" + when + ";far 1;");
+        x.state(Scenes.stateAheadOf(999));
+        x.puts(1, 0, 8);
+        x.state(Scenes.stateAheadOf(999));
+        x.puts(1, 0, 9);
+        x.set(3, 0, 1);
+        Due.is("where(0, 0, 1)", x.where(0, 0, 1), 5);
     }
 
     @Says(promise = 20, words = "IN THOUGHT (nothing of it stays; no DRAWS")

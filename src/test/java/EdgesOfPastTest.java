@@ -529,6 +529,8 @@ public final class EdgesOfPastTest {
         x.clue(0, 3, true);
         x.share(1);
         x.row(1);
+        x.mirror(35, 2);
+        x.gift(11, 0);
         x.image(false);
         Due.is("CUPS", x.under(0), 0);
         Due.is("CARDS", x.card(3, 0), 0);
@@ -536,6 +538,7 @@ public final class EdgesOfPastTest {
         Due.is("KEYS", x.opened(1), 1);
         Due.is("HEIR", x.heir(0), 2);
         Due.is("GLANCE", x.glance(0, 0), 12);
+        Due.is("GLANCE at the last place", x.glance(17, 0), 5);
         Due.is("MUST", x.fits(0), NONE);
         Due.is("WILL", x.gets(5, 0), NONE);
         Due.is("GAME", x.game(0), NONE);

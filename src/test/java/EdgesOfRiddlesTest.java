@@ -282,6 +282,19 @@ public final class EdgesOfRiddlesTest {
         Due.is("glance(5, 0)", x.glance(5, 0), 23);
     }
 
+    @Says(promise = 37, words = "how many mirrors it meets (one met twice counts twice)")
+    static void aLongGlanceMeetsManyMirrorsTwice() {
+        String board = "/\\///\\" + "\\\\////" + "////\\\\" + "\\\\////" + "//\\\\\\\\" + "\\/\\/\\/";
+        SleightHouse x = new SleightHouse();
+        for (int place = 0; place < 36; place++) {
+            x.mirror(place, board.charAt(place) == '/' ? 1 : 2);
+        }
+        Due.is("54 times on 36 places: glance(3, 1)", x.glance(3, 1), 54);
+        Due.is("glance(3, 0)", x.glance(3, 0), 4);
+        Due.is("and back: glance(4, 1)", x.glance(4, 1), 54);
+        Due.is("glance(4, 0)", x.glance(4, 0), 3);
+    }
+
     // Promise 38
 
     @Says(promise = 38, words = "THING a 0 .. 7 is, or is not, IN PLACE b 0 .. 7")
@@ -439,6 +452,10 @@ public final class EdgesOfRiddlesTest {
         }
         Due.is("gets(0, 0)", x.gets(0, 0), 0);
         Due.is("gets(9999, 0)", x.gets(9999, 0), 9999);
+        x.share(15);
+        Due.is("of two: gets(-1, 0)", x.gets(-1, 0), NONE);
+        Due.is("of two: gets(10000, 0)", x.gets(10000, 0), NONE);
+        Due.is("of two: gets(9999, 0)", x.gets(9999, 0), 6666);
     }
 
     @Says(promise = 41, words = "GETS of the i-th of w. NONE if one can't be")
@@ -523,6 +540,7 @@ public final class EdgesOfRiddlesTest {
         Due.is("of five: row(-1)", x.row(NONE), 0);
         Due.is("game(0)", x.game(0), NONE);
         Due.is("row(1)", x.row(1), 1);
+        Due.is("the one row alone: game(1)", x.game(1), 1);
     }
 
     // Promise 43
@@ -600,5 +618,42 @@ public final class EdgesOfRiddlesTest {
         x.row(3);
         Due.is("game(0)", x.game(0), 4);
         Due.is("game(1)", x.game(1), 1);
+    }
+
+    /** All that was told for thought and asked of it, in one number. */
+    private static long allAnswers(SleightHouse x) {
+        long all = 0;
+        for (int i = -2; i < 12; i++) {
+            all = all * 31 + x.game(i);
+            all = all * 31 + x.under(i);
+            all = all * 31 + x.fits(i);
+            all = all * 31 + x.gets(100, i);
+            all = all * 31 + x.boxes(i);
+            all = all * 31 + x.opened(i);
+            all = all * 31 + x.card(30, i);
+            all = all * 31 + x.heir(i);
+            all = all * 31 + x.glance(i, 0);
+            all = all * 31 + x.ring(12, 3, i);
+        }
+        return all;
+    }
+
+    @Says(promise = 43, words = "IN THOUGHT (nothing of it stays")
+    static void whatWasAskedAheadDoesNotMatter() {
+        SleightHouse x = Scenes.family(3, "person 0 child of 1;");
+        x.row(1);
+        x.row(30);
+        x.clue(0, 1, false);
+        x.swap(2, 3);
+        x.box(3, 4);
+        x.key(0, 1);
+        x.share(7);
+        x.mirror(3, 1);
+        x.fits(NONE);
+        // Who begins a row of 30 loses: so the 1 is taken.
+        Due.is("game(0)", x.game(0), 0);
+        Due.is("game(1)", x.game(1), 1);
+        long first = allAnswers(x);
+        Due.is("asked again", allAnswers(x) == first, true);
     }
 }

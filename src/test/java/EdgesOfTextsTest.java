@@ -166,6 +166,21 @@ public final class EdgesOfTextsTest {
     }
 
     @Says(promise = 11, words = "The TAPE has its first n bytes alone: true")
+    static void whatStoodBehindTheEndIsNotRead() {
+        SleightHouse x = house();
+        x.feed(0x66617274, 0x68657220, 0x313b2020, 0x20202020, 0x20202020);
+        x.end(3);
+        Due.is("\"far\" of \"farther 1;\": text(0)", x.text(LAW), NONE);
+        Due.is("fault(1)", x.fault(1), 3);
+        x.feed(0x66617220, 0x31323334, 0x353b2020, 0x20202020, 0x20202020);
+        x.end(8);
+        Due.is("\"far 1234\" of \"far 12345;\": text(0)", x.text(LAW), NONE);
+        Due.is("fault(1)", x.fault(1), 8);
+        Due.tell(x, LAW, "far 1;far 2;far 3;far 4;");
+        Due.is("a shorter text behind a longer one", Due.tell(x, LAW, "far 1;"), 1);
+    }
+
+    @Says(promise = 11, words = "The TAPE has its first n bytes alone: true")
     static void theFirstBytesStay() {
         SleightHouse x = house();
         x.feed(0x66617220, 0x313b6661, 0x7220323b, 0x66617220, 0x333b2020);
@@ -333,6 +348,10 @@ public final class EdgesOfTextsTest {
         faulty(LAW, "far siz;", 1, 4);
         faulty(LAW, "Far 1;", 1, 0);
         faulty(LAW, "faR 1;", 1, 0);
+        faulty(LAW, "farA 1;", 1, 0);
+        faulty(LAW, "farZ 1;", 1, 0);
+        faulty(LAW, "fara 1;", 1, 0);
+        faulty(LAW, "farz 1;", 1, 0);
     }
 
     @Says(promise = 13, words = "letters as many as stand together are KEYWORDS")
@@ -386,6 +405,53 @@ public final class EdgesOfTextsTest {
         faulty(LAW, "far_1;", 1, 3);
     }
 
+    @Says(promise = 13, words = "; + - * / ( ) < = > . Blanks (32, 10) between.")
+    static void signsBesideLettersAndDigitsAreNeither() {
+        faulty(LAW, "far@ 1;", 1, 3);
+        faulty(LAW, "far[ 1;", 1, 3);
+        faulty(LAW, "far` 1;", 1, 3);
+        faulty(LAW, "far{ 1;", 1, 3);
+        faulty(LAW, "far 1:;", 1, 5);
+        faulty(LAW, "far 1.;", 1, 5);
+        faulty(LAW, "far 1,;", 1, 5);
+        faulty(LAW, "far 1?;", 1, 5);
+    }
+
+    @Says(promise = 13, words = "; + - * / ( ) < = > . Blanks (32, 10) between.")
+    static void eachByteAloneIsABlankOrCantStand() {
+        for (int sign = 0; sign < 256; sign++) {
+            for (int k = 0; k <= 3; k++) {
+                if (sign == 32 || sign == 10) {
+                    fine(k, "" + (char) sign, 0);
+                } else {
+                    faulty(k, "" + (char) sign, 1, 0);
+                }
+            }
+        }
+    }
+
+    @Says(promise = 13, words = "; + - * / ( ) < = > . Blanks (32, 10) between.")
+    static void eachByteAsANumberIsADigitOrCantStand() {
+        for (int sign = 0; sign < 256; sign++) {
+            if (sign >= '0' && sign <= '9') {
+                fine(LAW, "far " + (char) sign + ";", 1);
+            } else {
+                faulty(LAW, "far " + (char) sign + ";", 1, sign == 32 || sign == 10 ? 5 : 4);
+            }
+        }
+    }
+
+    @Says(promise = 13, words = "; + - * / ( ) < = > . Blanks (32, 10) between.")
+    static void eachByteBehindALineIsABlankOrCantStand() {
+        for (int sign = 0; sign < 256; sign++) {
+            if (sign == 32 || sign == 10) {
+                fine(LAW, "far 1;" + (char) sign, 1);
+            } else {
+                faulty(LAW, "far 1;" + (char) sign, 1, 6);
+            }
+        }
+    }
+
     // Promise 13: fault 1
 
     @Says(promise = 13, words = "1 what can't stand there (the end: the text's length)")
@@ -413,6 +479,9 @@ public final class EdgesOfTextsTest {
     static void theFirstSignCanBeTheFault() {
         faulty(LAW, ";", 1, 0);
         faulty(LAW, "1;", 1, 0);
+        faulty(LAW, "sleight 1;", 1, 0);
+        faulty(LAW, "hour 1;", 1, 0);
+        faulty(LAW, "when 1=1;", 1, 0);
         faulty(SUPPER, ";", 1, 0);
         faulty(CUSTOMS, ";", 1, 0);
         faulty(LINE, ";", 1, 0);
@@ -422,6 +491,10 @@ public final class EdgesOfTextsTest {
     static void whatCantStandInALineOfTheLaw() {
         faulty(LAW, "far ;", 1, 4);
         faulty(LAW, "far far;", 1, 4);
+        faulty(LAW, "far palms;", 1, 4);
+        faulty(LAW, "far finds;", 1, 4);
+        faulty(LAW, "far when 1=1;", 1, 4);
+        faulty(LAW, "far or;", 1, 4);
         faulty(LAW, "far 1 far 2;", 1, 6);
         faulty(LAW, "far 1 when;", 1, 10);
         faulty(LAW, "far 1 when 1=1 when 1=1;", 1, 15);

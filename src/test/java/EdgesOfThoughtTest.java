@@ -636,4 +636,63 @@ public final class EdgesOfThoughtTest {
         Due.is("heir(-1)", x.heir(NONE), ways[0] + ways[1] + ways[2]);
         Due.is("heir(11)", x.heir(11), 2);
     }
+
+    @Says(promise = 32, words = "HEIR by LINE")
+    static void aLineThatGoesToAndFroHandsOnOverMany() {
+        int[] order = {0, 11, 1, 10, 2, 9, 3, 8, 4, 7, 5, 6};
+        StringBuilder line = new StringBuilder();
+        for (int i = 0; i < 11; i++) {
+            line.append("person ").append(order[i + 1]).append(" child of ").append(order[i]).append(";");
+        }
+        SleightHouse x = Scenes.family(12, line.toString());
+        int[] ways = {1, 1, 1};
+        for (int i = 0; i < 11; i++) {
+            ways = new int[] {ways[0] + ways[1], ways[0] + ways[1] + ways[2], ways[1] + ways[2]};
+        }
+        Due.is("heir(-1)", x.heir(NONE), ways[0] + ways[1] + ways[2]);
+    }
+
+    @Says(promise = 22, words = "A change of CUPS (a NONE: none is then)")
+    static void changesThatAreGoneDoNotComeBack() {
+        SleightHouse x = new SleightHouse();
+        x.swap(0, 1);
+        x.swap(1, 2);
+        x.swap(NONE, 0);
+        x.swap(3, 4);
+        Due.is("under(0)", x.under(0), 0);
+        Due.is("LEAST", x.under(NONE), 1);
+    }
+
+    @Says(promise = 24, words = "A pick of CARDS (NONE: none is then)")
+    static void picksThatAreGoneDoNotComeBack() {
+        SleightHouse x = new SleightHouse();
+        x.pick(0);
+        x.pick(0);
+        x.pick(NONE);
+        x.pick(1);
+        Due.is("card(3, 0)", x.card(3, 0), 0);
+    }
+
+    @Says(promise = 26, words = "A box (far NONE: none is then)")
+    static void boxesThatAreGoneDoNotComeBack() {
+        SleightHouse x = new SleightHouse();
+        x.box(5, 5);
+        x.box(6, 6);
+        x.box(NONE, 0);
+        x.box(4, 4);
+        Due.is("boxes(0)", x.boxes(0), 1);
+        Due.is("boxes(1)", x.boxes(1), 0);
+    }
+
+    @Says(promise = 28, words = "A key (a NONE: none is then)")
+    static void keysThatAreGoneDoNotComeBack() {
+        SleightHouse x = new SleightHouse();
+        x.key(0, 1);
+        x.key(1, 2);
+        x.key(NONE, 0);
+        x.key(3, 4);
+        Due.is("opened(1)", x.opened(1), 1);
+        Due.is("opened(2)", x.opened(2), 2);
+        Due.is("FORCED", x.opened(NONE), 9);
+    }
 }
