@@ -622,6 +622,15 @@ public final class EdgesOfThoughtTest {
         Due.is("no way", x.heir(NONE), 0);
     }
 
+    /** Twelve, each the child of the one ahead: by the last one's marks 0, 1, 2. */
+    private static int waysOfTwelveInARow() {
+        int[] ways = {1, 1, 1};
+        for (int i = 0; i < 11; i++) {
+            ways = new int[] {ways[0] + ways[1], ways[0] + ways[1] + ways[2], ways[1] + ways[2]};
+        }
+        return ways[0] + ways[1] + ways[2];
+    }
+
     @Says(promise = 32, words = "HEIR by LINE")
     static void aLongLineHandsOnOverMany() {
         StringBuilder line = new StringBuilder();
@@ -629,11 +638,7 @@ public final class EdgesOfThoughtTest {
             line.append("person ").append(i + 1).append(" child of ").append(i).append(";");
         }
         SleightHouse x = Scenes.family(12, line.toString());
-        int[] ways = {1, 1, 1};
-        for (int i = 0; i < 11; i++) {
-            ways = new int[] {ways[0] + ways[1], ways[0] + ways[1] + ways[2], ways[1] + ways[2]};
-        }
-        Due.is("heir(-1)", x.heir(NONE), ways[0] + ways[1] + ways[2]);
+        Due.is("heir(-1)", x.heir(NONE), waysOfTwelveInARow());
         Due.is("heir(11)", x.heir(11), 2);
     }
 
@@ -645,11 +650,7 @@ public final class EdgesOfThoughtTest {
             line.append("person ").append(order[i + 1]).append(" child of ").append(order[i]).append(";");
         }
         SleightHouse x = Scenes.family(12, line.toString());
-        int[] ways = {1, 1, 1};
-        for (int i = 0; i < 11; i++) {
-            ways = new int[] {ways[0] + ways[1], ways[0] + ways[1] + ways[2], ways[1] + ways[2]};
-        }
-        Due.is("heir(-1)", x.heir(NONE), ways[0] + ways[1] + ways[2]);
+        Due.is("heir(-1)", x.heir(NONE), waysOfTwelveInARow());
     }
 
     @Says(promise = 22, words = "A change of CUPS (a NONE: none is then)")

@@ -42,15 +42,8 @@ public final class PromisesTest {
         Due.finish();
     }
 
-    /** Two people (one deft, one not) and three things; no law. */
     private static SleightHouse house() {
-        SleightHouse x = new SleightHouse();
-        x.thing(3, 100, 0);
-        x.thing(5, 0, 1);
-        x.thing(9, 999, 2);
-        x.person(9, 2);
-        x.person(0, 9);
-        return x;
+        return Scenes.house();
     }
 
     // Promise 1
