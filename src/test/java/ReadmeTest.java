@@ -81,7 +81,7 @@ public final class ReadmeTest {
     }
 
     private static long[] run(String source) throws IOException, ReflectiveOperationException {
-        Path folder = Files.createTempDirectory("readme");
+        Path folder = Files.createTempDirectory(Files.createDirectories(Path.of("build")), "readme");
         Path file = folder.resolve("Readme.java");
         Path compiled = folder.resolve("Readme.class");
         try {
